@@ -13,7 +13,7 @@ public final class BellNames {
     private final Sheet[] sheets = new Sheet[SHEETS];
     private final Herd herd = new Herd();
     private final Readings readings = new Readings();
-    private final Choir choirFound = new Choir();
+    private final Families families = new Families();
     private final Walk walk = new Walk();
     private int traceLeft = 0;
     private int lastFault = 0;
@@ -91,7 +91,7 @@ public final class BellNames {
     public int heard(int spot) {
         if (!isBelow(spot, SPOTS)) return OUTSIDE;
         if (herd.isNone()) return STATE;
-        return heardFrom(herd.spotOf, spot);
+        return herd.heardFrom(herd.spotOf, spot);
     }
 
     public int taken(int spot, int v) {
@@ -124,9 +124,9 @@ public final class BellNames {
     public int family(int b) {
         if (!herd.hasBell(b)) return UNKNOWN;
         for (int other = 0; other < herd.count; other++) {
-            choirFound.sounds[other] = herd.soundNow(other);
+            families.sounds[other] = herd.soundNow(other);
         }
-        return choirFound.familyOf(b, herd.count);
+        return families.familyOf(b, herd.count);
     }
 
     public int goings(int sheet, int lane, int i, int n, int what) {
@@ -149,7 +149,7 @@ public final class BellNames {
         if (herd.isNone()) return STATE;
         if (!herd.hasAll(set)) return OUTSIDE;
         for (int spot = 0; spot < SPOTS; spot++) {
-            if ((set & ~heardFrom(herd.spotOf, spot)) == 0) return spot;
+            if ((set & ~herd.heardFrom(herd.spotOf, spot)) == 0) return spot;
         }
         return NONE;
     }
@@ -171,11 +171,11 @@ public final class BellNames {
         int others = 0;
         for (int other = 0; other < herd.count; other++) {
             if (other != b) {
-                others |= soundSet(herd.kindOf[other], herd.noteOf[other]);
+                others |= herd.soundSet(herd.kindOf[other], herd.noteOf[other]);
             }
         }
         for (int note = 0; note < NOTES; note++) {
-            if ((soundSet(herd.kindOf[b], note) & others) == 0) return note;
+            if ((herd.soundSet(herd.kindOf[b], note) & others) == 0) return note;
         }
         return NONE;
     }
@@ -183,8 +183,8 @@ public final class BellNames {
     public int choir(int k) {
         if (herd.isNone()) return STATE;
         if (k < -1 || k >= MOST_BELLS) return OUTSIDE;
-        if (k >= herd.count || !choirFound.search(herd)) return NONE;
-        return k == -1 ? choirFound.changed : choirFound.moods[k];
+        if (k >= herd.count || !families.findChoir(herd)) return NONE;
+        return k == -1 ? families.changed : families.moods[k];
     }
 
     // ---- 4 how they sounded
@@ -380,25 +380,6 @@ public final class BellNames {
         }
     }
 
-    /** The SOUNDS that a BELL of the kind and NOTE has in all MOODS by the WIND that blows, as a set. */
-    private int soundSet(int kind, int note) {
-        int set = 0;
-        for (int mood = 0; mood < MOODS; mood++) {
-            set |= 1 << soundOf(kind, note, mood, herd.wind);
-        }
-        return set;
-    }
-
-    private int heardFrom(int[] spots, int spot) {
-        int set = 0;
-        for (int b = 0; b < herd.count; b++) {
-            if (Math.abs(spots[b] - spot) <= herd.reach) {
-                set |= 1 << b;
-            }
-        }
-        return set;
-    }
-
     private static boolean isOfGoings(int what) {
         return isBelow(what, 4) || isBelow(what - FIRST_BELL_QUESTION, MOST_BELLS);
     }
@@ -406,7 +387,7 @@ public final class BellNames {
     private int ofWalk(int what) {
         if (what == 1) return walk.firstWrong;
         if (walk.firstWrong != NONE) return -100 - walk.firstWrong;
-        if (what == 0) return Integer.bitCount(heardFrom(walk.spotOf, 0));
+        if (what == 0) return Integer.bitCount(herd.heardFrom(walk.spotOf, 0));
         if (what == 2) return walk.steps;
         if (what == 3) return loudestSpot();
         int b = what - FIRST_BELL_QUESTION;
@@ -418,7 +399,7 @@ public final class BellNames {
         int best = 0;
         int most = 0;
         for (int spot = 0; spot < SPOTS; spot++) {
-            int many = Integer.bitCount(heardFrom(walk.spotOf, spot));
+            int many = Integer.bitCount(herd.heardFrom(walk.spotOf, spot));
             if (many > most) {
                 best = spot;
                 most = many;
@@ -579,20 +560,40 @@ public final class BellNames {
             return soundIn(b, moodOf[b]);
         }
 
-        boolean isHeard(int b, int spot) {
-            return stepsOf(b, spot) == 0;
+        /** The SOUNDS that a BELL of the kind and NOTE has in all MOODS by the WIND that blows, as a set. */
+        int soundSet(int kind, int note) {
+            int set = 0;
+            for (int mood = 0; mood < MOODS; mood++) {
+                set |= 1 << soundOf(kind, note, mood, wind);
+            }
+            return set;
         }
 
-        /** How far a BELL has to go so that it is HEARD at the SPOT. */
-        int stepsOf(int b, int spot) {
-            return Math.max(Math.abs(spotOf[b] - spot) - reach, 0);
+        /** How far a BELL has to go from where it is at so that it is HEARD at the SPOT. */
+        private int stepsFrom(int at, int spot) {
+            return Math.max(Math.abs(at - spot) - reach, 0);
+        }
+
+        boolean isHeard(int b, int spot) {
+            return stepsFrom(spotOf[b], spot) == 0;
+        }
+
+        /** Those HEARD at the SPOT, if the BELLS were at the places told. */
+        int heardFrom(int[] places, int spot) {
+            int set = 0;
+            for (int b = 0; b < count; b++) {
+                if (stepsFrom(places[b], spot) == 0) {
+                    set |= 1 << b;
+                }
+            }
+            return set;
         }
 
         int stepsToHear(int set, int spot) {
             int steps = 0;
             for (int b = 0; b < count; b++) {
                 if ((set >> b & 1) == 1) {
-                    steps += stepsOf(b, spot);
+                    steps += stepsFrom(spotOf[b], spot);
                 }
             }
             return steps;
@@ -633,7 +634,7 @@ public final class BellNames {
     }
 
     /** FAMILIES among SOUNDS, and the MOODS by which all are of one. */
-    private static final class Choir {
+    private static final class Families {
         final int[] sounds = new int[MOST_BELLS];
         final int[] moods = new int[MOST_BELLS];
         int changed = 0;
@@ -661,7 +662,7 @@ public final class BellNames {
         }
 
         /** Leaves the CHOIR in moods and changed; false: there is none. */
-        boolean search(Herd herd) {
+        boolean findChoir(Herd herd) {
             int rows = 1 << 2 * herd.count;
             int best = NONE;
             int fewest = MOST_BELLS + 1;

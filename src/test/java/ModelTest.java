@@ -1,0 +1,682 @@
+import java.util.ArrayList;
+import java.util.List;
+import java.util.Random;
+import java.util.TreeSet;
+import java.util.function.IntPredicate;
+import java.util.regex.Matcher;
+import java.util.regex.Pattern;
+
+/**
+ * Long runs of made-up calls, each answered by BellNames and by a second program of the document that is written
+ * another way: with classes for kinds, rows of real lanes, and the machine's own exceptions as FAULTS.
+ */
+public final class ModelTest {
+    private static final int UNKNOWN = -1, OUTSIDE = -2, STATE = -3, FULL = -4, NONE = -9;
+    private static final long LOST = Long.MIN_VALUE;
+
+    private static class Plain {
+        int number, note, spot, mood;
+
+        int soundBy(int n, int m, int w) { return n + m + w; }
+        int told(Model x) { x.leave(1); return note; }
+        int echoed(Model x) { x.leave(4); return number; }
+        final int plainTold(Model x) { x.leave(1); return note; }
+    }
+
+    private static class Cracked extends Plain {
+        @Override int soundBy(int n, int m, int w) { return n + m + w == 0 ? 0 : n + m + w - 1; }
+        @Override int told(Model x) { x.leave(2); return super.told(x) + 100; }
+    }
+
+    private static final class Stuffed extends Cracked {
+        @Override int soundBy(int n, int m, int w) { return (n + m + w) >> 1; }
+        @Override int told(Model x) { x.leave(3); int c = super.told(x); return c + plainTold(x); }
+        @Override int echoed(Model x) { x.leave(5); return 20; }
+    }
+
+    private static final class Model {
+        static final Pattern TEXT = Pattern.compile("b[0-2][0-9](;[pkh][0-9][0-9][0-3]){1,5}");
+        static final Plain[] KINDS = {new Plain(), new Cracked(), new Stuffed()};
+        static final Class<?>[] ROWS = {byte[].class, short[].class, int[].class};
+
+        final Object[] sheets = new Object[4];
+        final List<int[]> readings = new ArrayList<>();
+        List<Plain> bells = new ArrayList<>();
+        int wind, reach, trace, fault;
+
+        void leave(int number) { trace = trace * 31 + number; }
+
+        int failed(RuntimeException e) {
+            fault = e instanceof NullPointerException ? 1 : e instanceof ClassCastException ? 2
+                : e instanceof NegativeArraySizeException ? 4 : 3;
+            return -10 - fault;
+        }
+
+        static int at(Object row, int i) {
+            return row instanceof byte[] b ? b[i] : row instanceof short[] s ? s[i] : ((int[]) row)[i];
+        }
+
+        static int lengthOf(Object row) {
+            return java.lang.reflect.Array.getLength(row);
+        }
+
+        int[] taken(int k, int lane, int i, int n) {
+            Object row = ROWS[lane].cast(sheets[k]);
+            int length = lengthOf(row);
+            int[] cells = new int[n];
+            java.util.Objects.checkFromIndexSize(i, n, length);
+            for (int c = 0; c < n; c++) cells[c] = at(row, i + c);
+            return cells;
+        }
+
+        int alp(int k, int lane, int i, int n) {
+            fault = 0;
+            if (k < 0 || k > 3) return UNKNOWN;
+            if (lane < 0 || lane > 2) return OUTSIDE;
+            int[] codes;
+            try {
+                if (n > 60) {
+                    // A row so long would be too much for the machine; it is made shorter, but still too long.
+                    n = 61;
+                }
+                codes = taken(k, lane, i, n);
+            } catch (RuntimeException e) {
+                return failed(e);
+            }
+            StringBuilder s = new StringBuilder();
+            for (int code : codes) s.append(code >= 0 && code < 128 ? (char) code : '?');
+            for (int p = 1; p <= n; p++) {
+                Matcher m = TEXT.matcher(s.substring(0, p));
+                if (!m.matches() && !m.hitEnd()) return -100 - (p - 1);
+            }
+            if (!TEXT.matcher(s).matches()) return -100 - n;
+            wind = s.charAt(1) - '0';
+            reach = s.charAt(2) - '0';
+            bells = new ArrayList<>();
+            readings.clear();
+            for (String told : s.substring(4).split(";")) {
+                Plain bell = told.charAt(0) == 'p' ? new Plain() : told.charAt(0) == 'k' ? new Cracked() : new Stuffed();
+                bell.number = bells.size();
+                bell.note = told.charAt(1) - '0';
+                bell.spot = told.charAt(2) - '0';
+                bell.mood = told.charAt(3) - '0';
+                bells.add(bell);
+            }
+            return bells.size();
+        }
+
+        boolean none(int b) { return b < 0 || b >= bells.size(); }
+        boolean none() { return bells.isEmpty(); }
+        static boolean off(int v, int most) { return v < 0 || v > most; }
+        Plain bell(int b) { return bells.get(b); }
+        int sounds(int b, int mood) { return bell(b).soundBy(bell(b).note, mood, wind); }
+        int sounds(int b) { return sounds(b, bell(b).mood); }
+
+        int kind(int b) { return bell(b) instanceof Stuffed ? 2 : bell(b) instanceof Cracked ? 1 : 0; }
+
+        int ofBell(int b, int what) {
+            if (none(b)) return UNKNOWN;
+            if (off(what, 3)) return OUTSIDE;
+            return new int[] {kind(b), bell(b).note, bell(b).spot, bell(b).mood}[what];
+        }
+
+        int cheer(int b, int v) {
+            if (none(b)) return UNKNOWN;
+            if (off(v, 3)) return OUTSIDE;
+            int was = bell(b).mood;
+            bell(b).mood = v;
+            return was;
+        }
+
+        int recast(int b, int v) {
+            if (none(b)) return UNKNOWN;
+            if (off(v, 9)) return OUTSIDE;
+            int was = bell(b).note;
+            bell(b).note = v;
+            return was;
+        }
+
+        int go(int b, int v) {
+            if (none(b)) return UNKNOWN;
+            if (off(v, 9)) return OUTSIDE;
+            int was = bell(b).spot;
+            bell(b).spot = v;
+            return was;
+        }
+
+        int blow(int v) {
+            if (off(v, 2)) return OUTSIDE;
+            if (none()) return STATE;
+            int was = wind;
+            wind = v;
+            return was;
+        }
+
+        int sound(int b, int mood) {
+            if (none(b)) return UNKNOWN;
+            if (mood != NONE && off(mood, 3)) return OUTSIDE;
+            return mood == NONE ? sounds(b) : sounds(b, mood);
+        }
+
+        int setOf(IntPredicate is) {
+            int set = 0;
+            for (int b = 0; b < bells.size(); b++) if (is.test(b)) set += 1 << b;
+            return set;
+        }
+
+        boolean hears(int spot, int at) { return spot - at <= reach && at - spot <= reach; }
+
+        int heard(int spot) {
+            if (off(spot, 9)) return OUTSIDE;
+            if (none()) return STATE;
+            return setOf(b -> hears(spot, bell(b).spot));
+        }
+
+        int taken(int spot, int v) {
+            if (off(spot, 9) || off(v, 19)) return OUTSIDE;
+            if (none()) return STATE;
+            for (int off = 0; off < 40; off++) {
+                for (int b = 0; b < bells.size(); b++) {
+                    if (hears(spot, bell(b).spot) && Math.abs(sounds(b) - v) == off) return b;
+                }
+            }
+            return NONE;
+        }
+
+        TreeSet<Integer> allSounds(int b) {
+            TreeSet<Integer> all = new TreeSet<>();
+            for (int m = 0; m < 4; m++) all.add(sounds(b, m));
+            return all;
+        }
+
+        int meant(int spot, int v) {
+            if (off(spot, 9) || off(v, 19)) return OUTSIDE;
+            if (none()) return STATE;
+            return setOf(b -> hears(spot, bell(b).spot) && allSounds(b).contains(v));
+        }
+
+        /** By who can be come to from whom (Warshall), not by growing a set. */
+        boolean[][] families(int[] sounds) {
+            int n = sounds.length;
+            boolean[][] to = new boolean[n][n];
+            for (int x = 0; x < n; x++) {
+                for (int y = 0; y < n; y++) to[x][y] = x == y || Math.abs(sounds[x] - sounds[y]) == 2;
+            }
+            for (int z = 0; z < n; z++) {
+                for (int x = 0; x < n; x++) {
+                    for (int y = 0; y < n; y++) to[x][y] |= to[x][z] && to[z][y];
+                }
+            }
+            return to;
+        }
+
+        int family(int b) {
+            if (none(b)) return UNKNOWN;
+            int[] now = new int[bells.size()];
+            for (int x = 0; x < now.length; x++) now[x] = sounds(x);
+            boolean[] its = families(now)[b];
+            return setOf(x -> its[x]);
+        }
+
+        int goings(int k, int lane, int i, int n, int what) {
+            fault = 0;
+            if (off(k, 3)) return UNKNOWN;
+            if (off(lane, 2) || off(n, 20) || what < 0 || what > 14 || what > 3 && what < 10) return OUTSIDE;
+            int[] cells;
+            try {
+                cells = taken(k, lane, i, 2 * n);
+            } catch (RuntimeException e) {
+                return failed(e);
+            }
+            if (none()) return STATE;
+            for (int p = 0; p < n; p++) {
+                if (none(cells[2 * p])) return UNKNOWN;
+                if (off(cells[2 * p + 1], 9)) return OUTSIDE;
+            }
+            int[] at = new int[bells.size()];
+            for (int b = 0; b < at.length; b++) at[b] = bell(b).spot;
+            int steps = 0;
+            for (int p = 0; p < n; p++) {
+                int b = cells[2 * p];
+                int to = cells[2 * p + 1];
+                if (at[b] == to) return what == 1 ? p : -100 - p;
+                steps += Math.abs(at[b] - to);
+                at[b] = to;
+            }
+            if (what == 1) return NONE;
+            if (what == 2) return steps;
+            if (what >= 10) return what - 10 < at.length ? at[what - 10] : NONE;
+            int[] many = new int[10];
+            for (int spot = 0; spot < 10; spot++) {
+                for (int where : at) if (hears(spot, where)) many[spot]++;
+            }
+            if (what == 0) return many[0];
+            for (int most = 5; most > 0; most--) {
+                for (int spot = 0; spot < 10; spot++) if (many[spot] == most) return spot;
+            }
+            return 0;
+        }
+
+        int post(int set) {
+            if (none()) return STATE;
+            if (set < 0 || set >> bells.size() != 0) return OUTSIDE;
+            for (int spot = 0; spot < 10; spot++) if ((heard(spot) & set) == set) return spot;
+            return NONE;
+        }
+
+        int call(int set, int what) {
+            if (none()) return STATE;
+            if (set < 0 || set >> bells.size() != 0 || off(what, 1)) return OUTSIDE;
+            for (int steps = 0; steps < 100; steps++) {
+                for (int spot = 0; spot < 10; spot++) {
+                    int need = 0;
+                    for (Plain bell : bells) {
+                        if ((set & 1 << bell.number) == 0) continue;
+                        for (int at = bell.spot; !hears(spot, at); at += at < spot ? 1 : -1) need++;
+                    }
+                    if (need == steps) return what == 0 ? spot : steps;
+                }
+            }
+            return 12345;
+        }
+
+        int cast(int b) {
+            if (none(b)) return UNKNOWN;
+            int own = bell(b).note;
+            int found = NONE;
+            for (int note = 9; note >= 0; note--) {
+                bell(b).note = note;
+                boolean free = true;
+                for (Plain other : bells) {
+                    TreeSet<Integer> both = allSounds(b);
+                    both.retainAll(allSounds(other.number));
+                    if (other.number != b && !both.isEmpty()) free = false;
+                }
+                if (free) found = note;
+            }
+            bell(b).note = own;
+            return found;
+        }
+
+        int[] bestMoods;
+        int bestChanged;
+
+        void search(int[] moods, int b, int changed) {
+            if (b < moods.length) {
+                for (int m = 0; m < 4; m++) {
+                    moods[b] = m;
+                    search(moods, b + 1, changed + (m == bell(b).mood ? 0 : 1));
+                }
+                return;
+            }
+            if (changed >= bestChanged) return;
+            int[] all = new int[moods.length];
+            for (int x = 0; x < all.length; x++) all[x] = sounds(x, moods[x]);
+            for (boolean one : families(all)[0]) if (!one) return;
+            bestChanged = changed;
+            bestMoods = moods.clone();
+        }
+
+        int choir(int k) {
+            if (none()) return STATE;
+            if (k < -1 || k > 4) return OUTSIDE;
+            bestMoods = null;
+            bestChanged = 99;
+            search(new int[bells.size()], 0, 0);
+            if (bestMoods == null || k >= bells.size()) return NONE;
+            return k < 0 ? bestChanged : bestMoods[k];
+        }
+
+        int reading(int b, int mood, int v) {
+            if (none(b)) return UNKNOWN;
+            if (off(mood, 3) || off(v, 19)) return OUTSIDE;
+            if (readings.size() == 8) return FULL;
+            readings.add(new int[] {b, mood, v});
+            return readings.size() - 1;
+        }
+
+        int back(int k) {
+            if (off(k, readings.size())) return OUTSIDE;
+            for (; k > 0; k--) readings.remove(readings.size() - 1);
+            return readings.size();
+        }
+
+        boolean allSo() {
+            for (int[] r : readings) if (sounds(r[0], r[1]) != r[2]) return false;
+            return true;
+        }
+
+        int notes(int b) {
+            if (none(b)) return UNKNOWN;
+            int own = bell(b).note;
+            int set = 0;
+            for (int v = 0; v < 10; v++) {
+                bell(b).note = v;
+                if (allSo()) set += 1 << v;
+            }
+            bell(b).note = own;
+            return set;
+        }
+
+        int kinds(int b) {
+            if (none(b)) return UNKNOWN;
+            int set = 0;
+            for (int kind = 0; kind < 3; kind++) {
+                boolean so = true;
+                for (int[] r : readings) {
+                    Plain by = r[0] == b ? KINDS[kind] : bell(r[0]);
+                    so &= by.soundBy(bell(r[0]).note, r[1], wind) == r[2];
+                }
+                if (so) set += 1 << kind;
+            }
+            return set;
+        }
+
+        int winds() {
+            if (none()) return STATE;
+            int own = wind;
+            int set = 0;
+            for (wind = 0; wind < 3; wind++) if (allSo()) set += 1 << wind;
+            wind = own;
+            return set;
+        }
+
+        long odds(int spot, int v, int which) {
+            if (off(spot, 9) || off(v, 19) || off(which, 1) || none()) return LOST;
+            int all = 1 << 2 * bells.size();
+            int good = 0;
+            for (int row = 0; row < all; row++) {
+                boolean one = false;
+                for (Plain bell : bells) {
+                    int mood = row >> 2 * bell.number & 3;
+                    one |= hears(spot, bell.spot) && sounds(bell.number, mood) == v;
+                }
+                if (one) good++;
+            }
+            int x = good;
+            int y = all;
+            while (x != 0) {
+                int rest = y % x;
+                y = x;
+                x = rest;
+            }
+            return which == 0 ? good / y : all / y;
+        }
+
+        int sheet(int k, int lane, int n) {
+            fault = 0;
+            if (off(k, 3)) return UNKNOWN;
+            if (off(lane, 2) || n > 60) return OUTSIDE;
+            try {
+                sheets[k] = lane == 0 ? new byte[n] : lane == 1 ? new short[n] : new int[n];
+            } catch (NegativeArraySizeException e) {
+                return failed(e);
+            }
+            return 1;
+        }
+
+        int lose(int k) {
+            if (off(k, 3)) return UNKNOWN;
+            int had = sheets[k] == null ? 0 : 1;
+            sheets[k] = null;
+            return had;
+        }
+
+        int put(int k, int i, int v) {
+            fault = 0;
+            if (off(k, 3)) return UNKNOWN;
+            try {
+                if (sheets[k] instanceof byte[] b) b[i] = (byte) v;
+                else if (sheets[k] instanceof short[] s) s[i] = (short) v;
+                else ((int[]) sheets[k])[i] = v;
+            } catch (RuntimeException e) {
+                return failed(e);
+            }
+            return 1;
+        }
+
+        long cell(int k, int i, int lane) {
+            fault = 0;
+            if (off(k, 3) || off(lane, 2)) return LOST;
+            try {
+                return at(ROWS[lane].cast(sheets[k]), i);
+            } catch (RuntimeException e) {
+                failed(e);
+                return LOST;
+            }
+        }
+
+        int copy(int k, int i, int other, int j, int n) {
+            fault = 0;
+            if (off(k, 3) || off(other, 3)) return UNKNOWN;
+            try {
+                System.arraycopy(sheets[k], i, sheets[other], j, n);
+            } catch (ArrayStoreException e) {
+                return failed(new ClassCastException());
+            } catch (RuntimeException e) {
+                return failed(e);
+            }
+            return n;
+        }
+
+        int tell(int b) { return none(b) ? UNKNOWN : bell(b).told(this); }
+        int echo(int b) { return none(b) ? UNKNOWN : bell(b).echoed(this); }
+
+        int as(int b, int kind) {
+            fault = 0;
+            if (none(b)) return UNKNOWN;
+            if (off(kind, 2)) return OUTSIDE;
+            try {
+                KINDS[kind].getClass().cast(bell(b));
+            } catch (ClassCastException e) {
+                return failed(e);
+            }
+            return 1;
+        }
+
+        int many(int what) {
+            return off(what, 3) ? OUTSIDE : new int[] {bells.size(), wind, reach, readings.size()}[what];
+        }
+    }
+
+    private final Random random;
+    private final BellNames x = new BellNames();
+    private final Model model = new Model();
+    private final List<String> calls = new ArrayList<>();
+    private boolean isWrong = false;
+
+    private ModelTest(long seed) {
+        random = new Random(seed);
+    }
+
+    private void same(String call, long got, long want) {
+        calls.add(call + " = " + got);
+        if (got != want && !isWrong) {
+            isWrong = true;
+            for (String c : calls) System.out.println("  " + c);
+            System.out.println("  .. but due is " + want);
+        }
+    }
+
+    private static final int[] WILD = {-1, -2, -9, 5, 10, 20, 61, 99, Integer.MAX_VALUE, Integer.MIN_VALUE};
+
+    /** Mostly 0 .. most, now and then a number that is none of these. */
+    private int upTo(int most) {
+        return random.nextInt(25) == 0 ? WILD[random.nextInt(WILD.length)] : random.nextInt(most + 1);
+    }
+
+    private void write(int k, int lane, int[] cells, int ahead) {
+        same("sheet(" + k + ", " + lane + ", " + (cells.length + ahead) + ")",
+            x.sheet(k, lane, cells.length + ahead), model.sheet(k, lane, cells.length + ahead));
+        for (int c = 0; c < cells.length; c++) {
+            int i = c + ahead;
+            int v = cells[c];
+            same("put(" + k + ", " + i + ", " + v + ")", x.put(k, i, v), model.put(k, i, v));
+        }
+    }
+
+    private int letter(int... of) {
+        return of[random.nextInt(of.length)];
+    }
+
+    private void newAlp() {
+        int bells = 1 + random.nextInt(5);
+        if (random.nextInt(12) == 0) bells = 6;
+        int notes = random.nextInt(2) == 0 ? 10 : 3;
+        int[] text = new int[3 + 5 * bells];
+        text[0] = 'b';
+        text[1] = '0' + random.nextInt(3);
+        text[2] = '0' + random.nextInt(random.nextInt(3) == 0 ? 10 : 3);
+        for (int b = 0; b < bells; b++) {
+            text[3 + 5 * b] = ';';
+            text[4 + 5 * b] = letter('p', 'k', 'h');
+            text[5 + 5 * b] = '0' + random.nextInt(notes);
+            text[6 + 5 * b] = '0' + random.nextInt(10);
+            text[7 + 5 * b] = '0' + random.nextInt(4);
+        }
+        if (random.nextInt(3) == 0) text[random.nextInt(text.length)] = letter('b', 'p', ';', '0', '3', '9', ':', '/', 0, -1, 354);
+        int k = random.nextInt(4);
+        int lane = random.nextInt(3);
+        int ahead = random.nextInt(3);
+        write(k, lane, text, ahead);
+        int n = random.nextInt(4) == 0 ? random.nextInt(text.length + 2) : text.length;
+        alp(k, random.nextInt(12) == 0 ? upTo(2) : lane, ahead, n);
+    }
+
+    private void alp(int k, int lane, int i, int n) {
+        same("alp(" + k + ", " + lane + ", " + i + ", " + n + ")", x.alp(k, lane, i, n), model.alp(k, lane, i, n));
+    }
+
+    private void someGoings() {
+        int n = random.nextInt(5) == 0 ? random.nextInt(21) : random.nextInt(6);
+        int[] pairs = new int[2 * n];
+        for (int p = 0; p < n; p++) {
+            pairs[2 * p] = random.nextInt(12) == 0 ? upTo(5) : random.nextInt(Math.max(1, model.bells.size()));
+            pairs[2 * p + 1] = random.nextInt(12) == 0 ? upTo(10) : random.nextInt(10);
+        }
+        int k = random.nextInt(4);
+        int lane = random.nextInt(3);
+        write(k, lane, pairs, random.nextInt(2));
+        for (int what : new int[] {0, 1, 2, 3, 10, 11, 12, 13, 14, upTo(15)}) {
+            goings(k, lane, model.sheets[k] == null ? 0 : Model.lengthOf(model.sheets[k]) - 2 * n, n, what);
+        }
+    }
+
+    private void goings(int k, int lane, int i, int n, int what) {
+        same("goings(" + k + ", " + lane + ", " + i + ", " + n + ", " + what + ")",
+            x.goings(k, lane, i, n, what), model.goings(k, lane, i, n, what));
+    }
+
+    private void aReading() {
+        int b = upTo(4);
+        int mood = upTo(3);
+        int v = upTo(19);
+        // Mostly a true one, for else all sets would be empty soon.
+        if (!model.none(b) && !Model.off(mood, 3) && random.nextInt(5) != 0) v = model.sounds(b, mood);
+        same("reading(" + b + ", " + mood + ", " + v + ")", x.reading(b, mood, v), model.reading(b, mood, v));
+    }
+
+    private void aSheetCall() {
+        int k = upTo(3);
+        int i = upTo(8);
+        int v = random.nextInt(3) == 0 ? random.nextInt() : upTo(200);
+        int lane = upTo(2);
+        int n = upTo(8);
+        switch (random.nextInt(7)) {
+            case 0 -> same("sheet(" + k + ", " + lane + ", " + n + ")", x.sheet(k, lane, n), model.sheet(k, lane, n));
+            case 1 -> same("lose(" + k + ")", x.lose(k), model.lose(k));
+            case 2 -> same("put(" + k + ", " + i + ", " + v + ")", x.put(k, i, v), model.put(k, i, v));
+            case 3 -> same("cell(" + k + ", " + i + ", " + lane + ")", x.cell(k, i, lane), model.cell(k, i, lane));
+            case 4 -> alp(k, lane, i, n);
+            case 5 -> goings(k, lane, i, n, upTo(14));
+            default -> {
+                int other = upTo(3);
+                int j = upTo(8);
+                same("copy(" + k + ", " + i + ", " + other + ", " + j + ", " + n + ")",
+                    x.copy(k, i, other, j, n), model.copy(k, i, other, j, n));
+            }
+        }
+        same("fault()", x.fault(), model.fault);
+    }
+
+    private void aChange() {
+        int b = upTo(4);
+        int v = upTo(9);
+        int mood = upTo(3);
+        int wind = upTo(2);
+        switch (random.nextInt(7)) {
+            case 0 -> same("cheer(" + b + ", " + mood + ")", x.cheer(b, mood), model.cheer(b, mood));
+            case 1 -> same("recast(" + b + ", " + v + ")", x.recast(b, v), model.recast(b, v));
+            case 2 -> same("go(" + b + ", " + v + ")", x.go(b, v), model.go(b, v));
+            case 3 -> same("blow(" + wind + ")", x.blow(wind), model.blow(wind));
+            case 4 -> same("tell(" + b + ")", x.tell(b), model.tell(b));
+            case 5 -> same("echo(" + b + ")", x.echo(b), model.echo(b));
+            default -> same("back(" + mood + ")", x.back(mood), model.back(mood));
+        }
+        same("trace()", x.trace(), model.trace);
+    }
+
+    private void aQuestion() {
+        int b = upTo(4);
+        int spot = upTo(9);
+        int v = upTo(19);
+        int set = upTo(31);
+        int what = upTo(3);
+        switch (random.nextInt(16)) {
+            case 0 -> same("ofBell(" + b + ", " + what + ")", x.ofBell(b, what), model.ofBell(b, what));
+            case 1 -> same("sound(" + b + ", " + what + ")", x.sound(b, what), model.sound(b, what));
+            case 2 -> same("heard(" + spot + ")", x.heard(spot), model.heard(spot));
+            case 3 -> same("taken(" + spot + ", " + v + ")", x.taken(spot, v), model.taken(spot, v));
+            case 4 -> same("meant(" + spot + ", " + v + ")", x.meant(spot, v), model.meant(spot, v));
+            case 5 -> same("family(" + b + ")", x.family(b), model.family(b));
+            case 6 -> same("post(" + set + ")", x.post(set), model.post(set));
+            case 7 -> {
+                same("call(" + set + ", 0)", x.call(set, 0), model.call(set, 0));
+                same("call(" + set + ", " + what + ")", x.call(set, what), model.call(set, what));
+            }
+            case 8 -> same("cast(" + b + ")", x.cast(b), model.cast(b));
+            case 9 -> {
+                for (int k = -2; k <= 5; k++) same("choir(" + k + ")", x.choir(k), model.choir(k));
+            }
+            case 10 -> same("notes(" + b + ")", x.notes(b), model.notes(b));
+            case 11 -> same("kinds(" + b + ")", x.kinds(b), model.kinds(b));
+            case 12 -> same("winds()", x.winds(), model.winds());
+            case 13 -> {
+                int low = upTo(14);
+                same("odds(" + spot + ", " + low + ", 0)", x.odds(spot, low, 0), model.odds(spot, low, 0));
+                same("odds(" + spot + ", " + low + ", 1)", x.odds(spot, low, 1), model.odds(spot, low, 1));
+                same("odds(" + spot + ", " + v + ", " + what + ")", x.odds(spot, v, what), model.odds(spot, v, what));
+            }
+            case 14 -> {
+                same("as(" + b + ", " + what + ")", x.as(b, what), model.as(b, what));
+                same("fault()", x.fault(), model.fault);
+            }
+            default -> same("many(" + what + ")", x.many(what), model.many(what));
+        }
+        same("fault()", x.fault(), model.fault);
+    }
+
+    private void aStep() {
+        int way = random.nextInt(40);
+        if (way == 0) newAlp();
+        else if (way == 1) someGoings();
+        else if (way < 6) aReading();
+        else if (way < 12) aSheetCall();
+        else if (way < 20) aChange();
+        else aQuestion();
+    }
+
+    public static void main(String[] args) {
+        int wrong = 0;
+        int runs = args.length > 0 ? Integer.parseInt(args[0]) : 3000;
+        for (int seed = 0; seed < runs && wrong < 3; seed++) {
+            ModelTest run = new ModelTest(seed);
+            if (seed % 10 != 0) run.newAlp();
+            // The last step may be a long one: the document promises 512 calls.
+            while (run.calls.size() < 440 && !run.isWrong) run.aStep();
+            if (run.isWrong) wrong++;
+        }
+        System.out.println(wrong == 0 ? "both programs answer alike" : "at least " + wrong + " runs are not alike");
+        if (wrong != 0) System.exit(1);
+    }
+}
