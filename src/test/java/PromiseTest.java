@@ -1,43 +1,10 @@
 /** Each promise of the document by ordinary inputs, by its edges and by wrong inputs; the due answers are worked out by hand. */
-public final class PromiseTest {
-    private static final int UNKNOWN = -1, OUTSIDE = -2, STATE = -3, FULL = -4, NONE = -9;
-    private static final int NULL = -11, CAST = -12, INDEX = -13, SIZE = -14;
-    private static final long LOST = Long.MIN_VALUE;
-
+public final class PromiseTest extends Bench {
     /** WIND 1, REACH 2; SOUNDS now 4, 7, 6, 3, 4 at SPOTS 1, 5, 7, 9, 4. */
     private static final String FIVE = "b12;p310;k552;h873;p191;k440";
 
-    private static int wrong = 0;
-    private static int promise = 0;
-    private static int row = 0;
-
-    private static void of(int number) {
-        promise = number;
-        row = 0;
-    }
-
-    private static void due(long got, long want) {
-        row++;
-        if (got != want) {
-            wrong++;
-            System.out.println("promise " + promise + ", check " + row + ": answered " + got + ", due is " + want);
-        }
-    }
-
-    private static void write(BellNames x, int k, int lane, int from, int... cells) {
-        x.sheet(k, lane, from + cells.length);
-        for (int c = 0; c < cells.length; c++) x.put(k, from + c, cells[c]);
-    }
-
-    private static int alp(BellNames x, int lane, String text) {
-        write(x, 0, lane, 0, text.chars().toArray());
-        return x.alp(0, lane, 0, text.length());
-    }
-
-    private static BellNames on(String text) {
-        BellNames x = new BellNames();
-        alp(x, 0, text);
-        return x;
+    private static void of(int promise) {
+        about("promise " + promise);
     }
 
     private static void goingsAll(BellNames x, int n, int... wants) {
@@ -71,8 +38,7 @@ public final class PromiseTest {
         fault();
         many();
         constants();
-        System.out.println(wrong == 0 ? "all promises hold" : wrong + " answers are not as due");
-        if (wrong != 0) System.exit(1);
+        end();
     }
 
     private static void aNewObject() {
@@ -128,7 +94,7 @@ public final class PromiseTest {
         due(x.alp(0, -1, 0, 0), OUTSIDE);
         due(x.alp(0, 1, 0, -1), NULL);
         due(x.fault(), 1);
-        write(x, 0, 1, 2, "b00;p000".chars().toArray());
+        write(x, 0, 1, 2, codes("b00;p000"));
         due(x.alp(0, 0, 0, -1), CAST);
         due(x.fault(), 2);
         due(x.alp(0, 1, 99, -1), SIZE);
