@@ -498,6 +498,11 @@ public final class EdgeTest extends Bench {
         due(x.call(7, 1), 5);
         due(x.call(4, 0), 8);
         due(x.call(4, 1), 0);
+        about("CALL of one BELL: where it is, or the least SPOT at which it is HEARD");
+        for (int at = 0; at < 10; at++) {
+            due(on("b00;p0" + at + "0").call(1, 0), at);
+            due(on("b03;p0" + at + "0").call(1, 0), Math.max(0, at - 3));
+        }
         about("15: the empty set; all at one end, or at both; the most STEPS");
         due(x.call(0, 0), 0);
         due(x.call(0, 1), 0);
@@ -522,6 +527,10 @@ public final class EdgeTest extends Bench {
         // Others sound 4 .. 7: NOTE 0 (0 .. 3) is just below; 3 .. 6: NOTE 7 (7 .. 10) is just above.
         due(on("b00;p000;p400").cast(0), 0);
         due(on("b00;p000;p300").cast(0), 7);
+        about("CAST: SOUNDS that two others have, or that another has in two MOODS");
+        due(on("b00;p000;p000;p000").cast(0), 4);
+        due(on("b00;p000;h000").cast(0), 2);
+        due(on("b00;h000;h000").cast(0), 4);
         about("CAST: by all MOODS, not by its own; its own NOTE is free, too");
         due(on("b00;p403;p000").cast(0), 4);
         due(on("b00;p400;p003").cast(0), 4);
@@ -554,6 +563,10 @@ public final class EdgeTest extends Bench {
         // One change is enough: MOODS 0 2 or 2 0, and 0 2 is the first.
         choir("b00;p302;p302", 1, 0, 2);
         choir("b00;p300;p300", 1, 0, 2);
+        // 0 0 (SOUNDS 3 and 5) or 3 3 (6 and 8): the first and the last row.
+        choir("b00;p303;p500", 1, 0, 0);
+        choir("b00;p300;p500", 0, 0, 0);
+        choir("b00;p303;p503", 0, 3, 3);
         about("CHOIR: as far off as can be, and one more: NONE: there are none");
         choir("b00;p003;p500", 0, 3, 0);
         choir("b00;p000;p500", 1, 3, 0);
