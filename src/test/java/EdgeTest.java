@@ -433,6 +433,8 @@ public final class EdgeTest extends Bench {
         write(x, 1, 0, 0, 1, 5, 1, 4, 0, 9, 1, 9);
         int[] due = {1, 1, 3, 3, 8};
         for (int n = 0; n < 5; n++) due("of " + n, x.goings(1, 0, 0, n, 3), due[n]);
+        write(x, 1, 0, 0, 0, 0, 1, 0);
+        due(x.goings(1, 0, 0, 2, 3), 0);
         about("13: how many are HEARD at SPOT 0 behind them, by REACH");
         write(x, 1, 0, 0, 0, 1, 1, 0, 0, 2);
         due(x.goings(1, 0, 0, 0, 0), 0);
@@ -709,6 +711,11 @@ public final class EdgeTest extends Bench {
         due(x.many(1), 1);
         x.reading(0, 3, 9);
         due(x.winds(), 0);
+        about("WINDS by each BELL's own NOTE");
+        x = on("b00;p500;p900");
+        x.reading(0, 0, 6);
+        x.reading(1, 0, 10);
+        due(x.winds(), 2);
     }
 
     private static void share(BellNames x, int spot, int v, long upper, long lower) {
